@@ -219,7 +219,7 @@ public final class NoonMeals {
         if (trouble != FREE) {
             return refuse(trouble);
         }
-        orders.search(told, car, houses);
+        orders.learn(told, car);
         return accept(orders.worth(car, houses));
     }
 
@@ -231,8 +231,8 @@ public final class NoonMeals {
         if (i < 0 || i >= Integer.bitCount(houses)) {
             return refuse(NO_SUCH);
         }
-        orders.search(told, car, houses);
-        return accept(orders.houseAt(i));
+        orders.learn(told, car);
+        return accept(orders.houseAt(car, houses, i));
     }
 
     public int share() {
@@ -240,7 +240,7 @@ public final class NoonMeals {
             return refuse(NO_SUCH);
         }
         for (int car = 0; car < told.rows(CARS); car++) {
-            orders.search(told, car, told.allHouses());
+            orders.learn(told, car);
         }
         int worth = shares.search(told, orders);
         if (worth == WORST) {
@@ -483,6 +483,7 @@ public final class NoonMeals {
 
     private void forgetDoings() {
         rounds.clear();
+        orders.forget();
         shares.forget();
         menus.forget();
         knocks.forget();
@@ -676,9 +677,9 @@ public final class NoonMeals {
             end = from;
             if (from >= length) {
                 kind = END;
-            } else if (isLetter(tape[from])) {
+            } else if (tape[from] >= 'a' && tape[from] <= 'z') {
                 takeWord();
-            } else if (isDigit(tape[from])) {
+            } else if (tape[from] >= '0' && tape[from] <= '9') {
                 takeWhole();
             } else {
                 takeSign(tape[from]);
@@ -700,7 +701,7 @@ public final class NoonMeals {
         private void takeWord() {
             packed = 0;
             letters = 0;
-            while (end < length && isLetter(tape[end])) {
+            while (end < length && tape[end] >= 'a' && tape[end] <= 'z') {
                 int letter = tape[end] - 'a';
                 packed = packed * 32 + letter + 1;
                 letters |= 1 << letter;
@@ -711,7 +712,7 @@ public final class NoonMeals {
 
         private void takeWhole() {
             value = 0;
-            while (end < length && isDigit(tape[end])) {
+            while (end < length && tape[end] >= '0' && tape[end] <= '9') {
                 value = value * 10 + tape[end] - '0';
                 end++;
             }
@@ -721,14 +722,6 @@ public final class NoonMeals {
         private void takeSign(int sign) {
             end = place + 1;
             kind = sign == ';' ? SEMICOLON : sign == ',' ? COMMA : BROKEN;
-        }
-
-        private static boolean isLetter(int sign) {
-            return sign >= 'a' && sign <= 'z';
-        }
-
-        private static boolean isDigit(int sign) {
-            return sign >= '0' && sign <= '9';
         }
     }
 
@@ -964,7 +957,7 @@ public final class NoonMeals {
 
     /** The rounds as they are driven, and the houses where tea is taken. */
     private static final class Rounds {
-        private final int[][] led = new int[MOST_CARS][MOST_HOUSES];
+        private final int[][] routes = new int[MOST_CARS][MOST_HOUSES];
         private final int[] counts = new int[MOST_CARS];
         private final int[] arrivals = new int[MOST_HOUSES];
         private int teaHouses;
@@ -979,13 +972,13 @@ public final class NoonMeals {
         }
 
         int houseAt(int car, int i) {
-            return i >= 0 && i < count(car) ? led[car][i] : NONE;
+            return i >= 0 && i < count(car) ? routes[car][i] : NONE;
         }
 
         int append(int car, int house) {
             int count = count(car);
             if (isWithin(car, 0, MOST_CARS - 1) && isWithin(house, 0, MOST_HOUSES - 1) && count < MOST_HOUSES) {
-                led[car][count] = house;
+                routes[car][count] = house;
                 counts[car]++;
             }
             return count(car);
@@ -1002,7 +995,7 @@ public final class NoonMeals {
         int carOf(int house) {
             for (int car = 0; car < MOST_CARS; car++) {
                 for (int i = 0; i < counts[car]; i++) {
-                    if (led[car][i] == house) {
+                    if (routes[car][i] == house) {
                         return car;
                     }
                 }
@@ -1013,7 +1006,7 @@ public final class NoonMeals {
         int housesOf(int car) {
             int houses = 0;
             for (int i = 0; i < count(car); i++) {
-                houses |= 1 << led[car][i];
+                houses |= 1 << routes[car][i];
             }
             return houses;
         }
@@ -1029,7 +1022,7 @@ public final class NoonMeals {
             int place = day.startPlace(car);
             int minute = day.get(CARS, car, CAR_STARTS);
             for (int i = 0; i < count(car); i++) {
-                int house = led[car][i];
+                int house = routes[car][i];
                 int next = day.get(HOUSES, house, HOUSE_AT);
                 minute += day.wayBetween(place, next);
                 place = next;
@@ -1052,9 +1045,9 @@ public final class NoonMeals {
                 long product = 1;
                 for (int i = 0; i < count(car); i++) {
                     boolean takes = (choice & 1 << i) != 0;
-                    int chance = day.get(HOUSES, led[car][i], HOUSE_CHANCE);
+                    int chance = day.get(HOUSES, routes[car][i], HOUSE_CHANCE);
                     product *= takes ? chance : 100 - chance;
-                    teas |= takes ? 1 << led[car][i] : 0;
+                    teas |= takes ? 1 << routes[car][i] : 0;
                 }
                 if (follow(day, car, teas) == 0) {
                     together += product;
@@ -1064,58 +1057,73 @@ public final class NoonMeals {
         }
     }
 
-    /** The best orders of a car for each choice among some houses, without tea. */
+    /**
+     * The best orders without tea: of each car for each set of houses that it holds. They hang on the
+     * day alone, so a car's are all found when one is first asked for, and kept.
+     */
     private static final class Orders {
         private final int[][] worths = new int[MOST_CARS][1 << MOST_HOUSES];
+        /** The houses of an order, three bits each, the last one lowest. */
+        private final int[][] packed = new int[MOST_CARS][1 << MOST_HOUSES];
         private final int[] order = new int[MOST_HOUSES];
-        private final int[] bestOrder = new int[MOST_HOUSES];
-        private int wanted;
+        private int knownCars;
+
+        void forget() {
+            knownCars = 0;
+        }
 
         int worth(int car, int houses) {
-            boolean known = isWithin(car, 0, MOST_CARS - 1) && isWithin(houses, 0, (1 << MOST_HOUSES) - 1);
-            return known ? worths[car][houses] : WORST;
+            return isInside(car, houses) ? worths[car][houses] : WORST;
         }
 
-        int houseAt(int i) {
-            return i >= 0 && i < MOST_HOUSES ? bestOrder[i] : NONE;
+        int houseAt(int car, int houses, int i) {
+            int behind = Integer.bitCount(houses) - 1 - i;
+            return isInside(car, houses) && i >= 0 && behind >= 0 ? packed[car][houses] >> 3 * behind & 7 : NONE;
         }
 
-        void search(Day day, int car, int houses) {
-            if (!isWithin(car, 0, MOST_CARS - 1)) {
+        private static boolean isInside(int car, int houses) {
+            return isWithin(car, 0, MOST_CARS - 1) && isWithin(houses, 0, (1 << MOST_HOUSES) - 1);
+        }
+
+        void learn(Day day, int car) {
+            if (!isInside(car, 0) || (knownCars & 1 << car) != 0) {
                 return;
             }
             int starts = day.get(CARS, car, CAR_STARTS);
-            wanted = houses & day.allHouses();
+            knownCars |= 1 << car;
             Arrays.fill(worths[car], WORST);
             worths[car][0] = starts;
-            extend(day, car, 0, 0, day.startPlace(car), starts, 0);
+            extend(day, car, 0, 0, starts, 0);
         }
 
-        /** Orders are met in the order of houses' numbers, so a later one must be better to stay. */
-        private void extend(Day day, int car, int depth, int done, int place, int leaves, int bad) {
+        private void extend(Day day, int car, int depth, int done, int leaves, int bad) {
             if (depth >= Math.min(MOST_HOUSES, day.get(CARS, car, CAR_HOLDS))) {
                 return;
             }
-            for (int house = 0; house < MOST_HOUSES; house++) {
+            int place = depth == 0 ? day.startPlace(car) : day.get(HOUSES, order[depth - 1], HOUSE_AT);
+            for (int house = 0; house < Math.min(MOST_HOUSES, day.rows(HOUSES)); house++) {
                 int now = done | 1 << house;
-                if (now != done && (wanted & 1 << house) != 0) {
-                    int next = day.get(HOUSES, house, HOUSE_AT);
-                    int minute = leaves + day.wayBetween(place, next);
+                if (now != done) {
+                    int minute = leaves + day.wayBetween(place, day.get(HOUSES, house, HOUSE_AT));
                     int badNow = bad + (day.isBadAt(car, minute) ? 1 : 0);
                     order[depth] = house;
                     note(car, now, badNow * BAD_WEIGHT + minute);
-                    extend(day, car, depth + 1, now, next, minute + day.stayWithoutTea(car, house), badNow);
+                    extend(day, car, depth + 1, now, minute + day.stayWithoutTea(car, house), badNow);
                 }
             }
         }
 
+        /** Orders are met in the order of houses' numbers, so a later one must be better to be kept. */
         private void note(int car, int houses, int worth) {
-            if (worth < worths[car][houses]) {
-                worths[car][houses] = worth;
-                if (houses == wanted) {
-                    System.arraycopy(order, 0, bestOrder, 0, MOST_HOUSES);
-                }
+            if (worth >= worths[car][houses]) {
+                return;
             }
+            int houseBits = 0;
+            for (int i = 0; i < Integer.bitCount(houses); i++) {
+                houseBits = houseBits << 3 | order[i];
+            }
+            worths[car][houses] = worth;
+            packed[car][houses] = houseBits;
         }
     }
 
@@ -1135,7 +1143,7 @@ public final class NoonMeals {
             return house >= 0 && house < toldHouses ? bestCars[house] : NONE;
         }
 
-        /** The orders have been searched for each car and all houses; answers the least worth together. */
+        /** Each car's orders must have been learnt; answers the least worth of all cars together. */
         int search(Day day, Orders orders) {
             least = WORST;
             Arrays.fill(held, 0);
