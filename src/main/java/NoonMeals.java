@@ -95,7 +95,9 @@ public final class NoonMeals {
 
     /** A round's worth in one number: bad plates count this, and no sum of minutes reaches it. */
     private static final int BAD_WEIGHT = 10000;
-    private static final int WORST = Integer.MAX_VALUE;
+    /** Above all worths, coins, needs and minutes, and above all that calls can be expected to take. */
+    private static final int WORST = 1000000000;
+    private static final long ENDLESS = 1000000000000000L;
 
     private final DayReader reader = new DayReader();
     private final Rounds rounds = new Rounds();
@@ -1304,7 +1306,7 @@ public final class NoonMeals {
         }
 
         long search(Day day) {
-            least = Long.MAX_VALUE;
+            least = ENDLESS;
             extend(day, 0, 0);
             toldCalls = callCount(day);
             return least;

@@ -38,6 +38,23 @@ final class Check {
         due("led(" + car + ", " + i + ") throws", true, thrown);
     }
 
+    /** The text has a fault at the mark, which isn't part of it; behind the mark anything may stand. */
+    void dueFault(String marked, int fault) {
+        String text = marked.replace("^", "");
+        NoonMeals meals = new NoonMeals();
+        due(meals, "day of " + text, -1, 4, tell(meals, text));
+        due("fault of " + text, fault, meals.fault());
+        due("place in " + text, marked.indexOf('^'), meals.where());
+    }
+
+    void dueGood(String text) {
+        NoonMeals meals = new NoonMeals();
+        due(text + " has houses", true, tell(meals, text) > 0);
+        due("trouble with " + text, 0, meals.trouble());
+        due("fault of " + text, 0, meals.fault());
+        due("place of no fault in " + text, -1, meals.where());
+    }
+
     void end() {
         System.out.println(name + ": " + asked + " answers, " + wrong + " not as due");
         if (wrong != 0) {

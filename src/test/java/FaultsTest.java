@@ -24,86 +24,67 @@ public final class FaultsTest {
         CHECK.end();
     }
 
-    private static void due(String text, int fault, int place) {
-        NoonMeals x = new NoonMeals();
-        CHECK.due(x, "day of " + text, -1, 4, Check.tell(x, text));
-        CHECK.due("fault of " + text, fault, x.fault());
-        CHECK.due("place in " + text, place, x.where());
-    }
-
-    /** The fault is at the mark, which isn't part of the text. */
-    private static void dueAtMark(String marked, int fault) {
-        due(marked.replace("^", ""), fault, marked.indexOf('^'));
-    }
-
     private static void dueBehindDay(String marked, int fault) {
-        dueAtMark(DAY + ";" + marked, fault);
-    }
-
-    private static void dueGood(String text) {
-        NoonMeals x = new NoonMeals();
-        CHECK.due("houses of " + text, 1, Math.min(1, Check.tell(x, text)));
-        CHECK.due("trouble with " + text, 0, x.trouble());
-        CHECK.due("fault of " + text, 0, x.fault());
+        CHECK.dueFault(DAY + ";" + marked, fault);
     }
 
     private static void good() {
-        dueGood(DAY);
-        dueGood("  " + DAY + "   ");
-        dueGood(DAY.replace(";", " ; "));
-        dueGood(DAY.replace(" ", "   "));
-        dueGood(DAY.replace("hot 40 by 600", "hot40by600"));
-        dueGood(DAY.replace("at 0", "at 000"));
-        dueGood(KITCHEN + ";" + DIET + ";" + HOUSE + ";" + CAR + ";" + LAW);
-        dueGood(DAY + ";house hot at 0 eats n doors 0 tea 0 chance 0 need 1 dog");
-        dueGood(DAY + ";car by from k starts 500 holds 1 cools 0 afraid");
-        dueGood(DAY + ";dish most of dog costs 1;diet eightlet bars afraid");
-        dueGood(DAY + ";dish x of kitchen costs 1");
-        dueGood(DAY + ";flood 98 adds 60;flood 98 adds 60;flood 0 adds 1");
-        dueGood(DAY + ";helper days days 0 , 6,3 most 7;helper x days 6 most 1");
-        dueGood(DAY + ";call takes takes 60 chance 100;call chance takes 1 chance 0");
+        CHECK.dueGood(DAY);
+        CHECK.dueGood("  " + DAY + "   ");
+        CHECK.dueGood(DAY.replace(";", " ; "));
+        CHECK.dueGood(DAY.replace(" ", "   "));
+        CHECK.dueGood(DAY.replace("hot 40 by 600", "hot40by600"));
+        CHECK.dueGood(DAY.replace("at 0", "at 000"));
+        CHECK.dueGood(KITCHEN + ";" + DIET + ";" + HOUSE + ";" + CAR + ";" + LAW);
+        CHECK.dueGood(DAY + ";house hot at 0 eats n doors 0 tea 0 chance 0 need 1 dog");
+        CHECK.dueGood(DAY + ";car by from k starts 500 holds 1 cools 0 afraid");
+        CHECK.dueGood(DAY + ";dish most of dog costs 1;diet eightlet bars afraid");
+        CHECK.dueGood(DAY + ";dish x of kitchen costs 1");
+        CHECK.dueGood(DAY + ";flood 98 adds 60;flood 98 adds 60;flood 0 adds 1");
+        CHECK.dueGood(DAY + ";helper days days 0 , 6,3 most 7;helper x days 6 most 1");
+        CHECK.dueGood(DAY + ";call takes takes 60 chance 100;call chance takes 1 chance 0");
     }
 
     private static void tokens() {
-        dueAtMark("^", 1);
-        dueAtMark("   ^", 1);
-        dueAtMark("^;", 1);
-        dueAtMark("^,", 1);
-        dueAtMark("^7", 1);
-        dueAtMark("^Law hot 40 by 600", 1);
-        dueAtMark("^\n" + LAW, 1);
-        dueAtMark("law hot 40 by 600^\u00e9", 1);
-        dueAtMark("law hot 40 by 600^.", 1);
-        dueAtMark("law^\u0000hot 40 by 600", 1);
-        dueAtMark("law ^hotter 40", 1);
-        dueAtMark("law ^ho 40", 1);
-        dueAtMark("law hot ^0040 by 600", 1);
-        dueAtMark("law hot ^-40 by 600", 1);
-        dueAtMark("kitchen ^abcdefghi at 0", 1);
-        dueAtMark("kitchen abcdefgh ^0", 1);
-        dueAtMark("dish x of ^abcdefghi costs 1", 1);
-        dueAtMark("dish x of abcdefgh ^cost 1", 1);
-        dueAtMark("^la", 1);
+        CHECK.dueFault("^", 1);
+        CHECK.dueFault("   ^", 1);
+        CHECK.dueFault("^;", 1);
+        CHECK.dueFault("^,", 1);
+        CHECK.dueFault("^7", 1);
+        CHECK.dueFault("^Law hot 40 by 600", 1);
+        CHECK.dueFault("^\n" + LAW, 1);
+        CHECK.dueFault("law hot 40 by 600^\u00e9", 1);
+        CHECK.dueFault("law hot 40 by 600^.", 1);
+        CHECK.dueFault("law^\u0000hot 40 by 600", 1);
+        CHECK.dueFault("law ^hotter 40", 1);
+        CHECK.dueFault("law ^ho 40", 1);
+        CHECK.dueFault("law hot ^0040 by 600", 1);
+        CHECK.dueFault("law hot ^-40 by 600", 1);
+        CHECK.dueFault("kitchen ^abcdefghi at 0", 1);
+        CHECK.dueFault("kitchen abcdefgh ^0", 1);
+        CHECK.dueFault("dish x of ^abcdefghi costs 1", 1);
+        CHECK.dueFault("dish x of abcdefgh ^cost 1", 1);
+        CHECK.dueFault("^la", 1);
     }
 
     private static void forms() {
-        dueAtMark("law^", 1);
-        dueAtMark("law   ^", 1);
-        dueAtMark("law hot 40 by 600;^", 1);
-        dueAtMark("law hot 40 by 600;  ^", 1);
-        dueAtMark("law hot 40 by 600;^;", 1);
-        dueAtMark("law hot 40 by 600^, kitchen", 1);
-        dueAtMark("law hot 40 by 600 ^kitchen", 1);
-        dueAtMark("law hot ^by 600", 1);
-        dueAtMark("law hot 40 by^;", 1);
-        dueAtMark("kitchen k ^hot 60", 1);
-        dueAtMark("kitchen at^", 1);
-        dueAtMark("kitchen at ^0", 1);
-        dueAtMark("flood ^x adds 1", 1);
-        dueAtMark("flood 5 ^add 1", 1);
-        dueAtMark("dish x of ^5", 1);
-        dueAtMark("diet x bars ^5", 1);
-        dueAtMark("diet x bars a ^b", 1);
+        CHECK.dueFault("law^", 1);
+        CHECK.dueFault("law   ^", 1);
+        CHECK.dueFault("law hot 40 by 600;^", 1);
+        CHECK.dueFault("law hot 40 by 600;  ^", 1);
+        CHECK.dueFault("law hot 40 by 600;^;", 1);
+        CHECK.dueFault("law hot 40 by 600^, kitchen", 1);
+        CHECK.dueFault("law hot 40 by 600 ^kitchen", 1);
+        CHECK.dueFault("law hot ^by 600", 1);
+        CHECK.dueFault("law hot 40 by^;", 1);
+        CHECK.dueFault("kitchen k ^hot 60", 1);
+        CHECK.dueFault("kitchen at^", 1);
+        CHECK.dueFault("kitchen at ^0", 1);
+        CHECK.dueFault("flood ^x adds 1", 1);
+        CHECK.dueFault("flood 5 ^add 1", 1);
+        CHECK.dueFault("dish x of ^5", 1);
+        CHECK.dueFault("diet x bars ^5", 1);
+        CHECK.dueFault("diet x bars a ^b", 1);
         dueBehindDay("house x at 0 eats n doors 0 tea 0 chance 0 need 1 ^cat", 1);
         dueBehindDay("house x at 0 eats n doors 0 tea 0 chance 0 need 1 dog ^dog", 1);
         dueBehindDay("house x at 0 eats n doors 0 tea 0 chance 0 need 1 ^afraid", 1);
@@ -125,19 +106,19 @@ public final class FaultsTest {
             "helper", "dog", "afraid"}) {
             dueBehindDay("dish ^" + word + " of a costs 1", 1);
         }
-        dueAtMark("^dog", 1);
-        dueAtMark("^afraid", 1);
+        CHECK.dueFault("^dog", 1);
+        CHECK.dueFault("^afraid", 1);
     }
 
     private static void names() {
-        dueAtMark("car c from ^k starts", 2);
-        dueAtMark("car c from ^c starts", 2);
-        dueAtMark(DIET + ";car c from ^n starts", 2);
-        dueAtMark(LAW + ";house h at 0 eats ^n doors", 2);
-        dueAtMark("house h at 0 eats ^h doors", 2);
-        dueAtMark(KITCHEN + ";house h at 0 eats ^k doors", 2);
-        dueAtMark(DIET + ";house h at 0 eats ^nn doors", 2);
-        dueAtMark("house h at 0 eats ^n doors 0 tea 0 chance 0 need 1;" + DIET, 2);
+        CHECK.dueFault("car c from ^k starts", 2);
+        CHECK.dueFault("car c from ^c starts", 2);
+        CHECK.dueFault(DIET + ";car c from ^n starts", 2);
+        CHECK.dueFault(LAW + ";house h at 0 eats ^n doors", 2);
+        CHECK.dueFault("house h at 0 eats ^h doors", 2);
+        CHECK.dueFault(KITCHEN + ";house h at 0 eats ^k doors", 2);
+        CHECK.dueFault(DIET + ";house h at 0 eats ^nn doors", 2);
+        CHECK.dueFault("house h at 0 eats ^n doors 0 tea 0 chance 0 need 1;" + DIET, 2);
     }
 
     private static void toldAgain() {
@@ -145,7 +126,7 @@ public final class FaultsTest {
         dueBehindDay("^law", 3);
         for (String sort : new String[] {"kitchen", "dish", "diet", "house", "car", "call", "helper"}) {
             for (String name : new String[] {"k", "n", "h", "c", "x", "y", "z"}) {
-                dueAtMark(DAY + ";dish x of a costs 1;call y takes 1 chance 0;helper z days 0 most 1;"
+                CHECK.dueFault(DAY + ";dish x of a costs 1;call y takes 1 chance 0;helper z days 0 most 1;"
                         + sort + " ^" + name, 3);
             }
         }
@@ -171,11 +152,11 @@ public final class FaultsTest {
             String whole = line.replaceFirst(".*#([0-9]+-[0-9]+).*", "$1");
             int least = Integer.parseInt(whole.split("-")[0]);
             int most = Integer.parseInt(whole.split("-")[1]);
-            dueGood(day + ";" + line.replace("#" + whole, "" + least));
-            dueGood(day + ";" + line.replace("#" + whole, "" + most));
-            dueAtMark(day + ";" + line.replace("#" + whole, "^" + (most + 1)), 4);
+            CHECK.dueGood(day + ";" + line.replace("#" + whole, "" + least));
+            CHECK.dueGood(day + ";" + line.replace("#" + whole, "" + most));
+            CHECK.dueFault(day + ";" + line.replace("#" + whole, "^" + (most + 1)), 4);
             if (least > 0) {
-                dueAtMark(day + ";" + line.replace("#" + whole, "^" + (least - 1)), 4);
+                CHECK.dueFault(day + ";" + line.replace("#" + whole, "^" + (least - 1)), 4);
             }
         }
         dueBehindDay("helper x days 0,^7 most 1", 4);
@@ -193,29 +174,29 @@ public final class FaultsTest {
             for (int row = hasOne ? 1 : 0; row < rooms[i]; row++) {
                 text.append(';').append(lines[i].replace("#", "x" + (char) ('a' + row)));
             }
-            dueGood(text.toString());
-            dueAtMark(text + ";^" + sort, 5);
-            dueAtMark(text + "; ^" + lines[i].replace("#", "xa"), 5);
+            CHECK.dueGood(text.toString());
+            CHECK.dueFault(text + ";^" + sort, 5);
+            CHECK.dueFault(text + "; ^" + lines[i].replace("#", "xa"), 5);
         }
     }
 
     private static void lacks() {
-        dueAtMark(LAW + "^", 6);
-        dueAtMark(LAW + "  ^", 6);
-        dueAtMark(DAY.substring(LAW.length() + 1) + "^", 6);
-        dueAtMark(LAW + ";" + KITCHEN + ";" + DIET + ";" + HOUSE + "^", 6);
-        dueAtMark(LAW + ";" + KITCHEN + ";" + DIET + ";" + CAR + "^", 6);
-        dueAtMark(LAW + ";^", 1);
+        CHECK.dueFault(LAW + "^", 6);
+        CHECK.dueFault(LAW + "  ^", 6);
+        CHECK.dueFault(DAY.substring(LAW.length() + 1) + "^", 6);
+        CHECK.dueFault(LAW + ";" + KITCHEN + ";" + DIET + ";" + HOUSE + "^", 6);
+        CHECK.dueFault(LAW + ";" + KITCHEN + ";" + DIET + ";" + CAR + "^", 6);
+        CHECK.dueFault(LAW + ";^", 1);
     }
 
     private static void firstFromTheLeft() {
-        dueAtMark("law hot ^39 by 600 !", 4);
-        dueAtMark("law hot ^39 !", 4);
-        dueAtMark("law hot 40 by ^599;law", 4);
-        dueAtMark("law hot 40 by 600;^law hot 39", 3);
-        dueAtMark("car c from ^k starts 499", 2);
-        dueAtMark("kitchen k at ^100 hot 60;kitchen k", 4);
-        dueAtMark("kitchen k at 0 hot 60;kitchen ^k at 100", 3);
-        dueAtMark(DAY + ";kitchen x at 0 hot 60;kitchen y at 0 hot 60;^kitchen k", 5);
+        CHECK.dueFault("law hot ^39 by 600 !", 4);
+        CHECK.dueFault("law hot ^39 !", 4);
+        CHECK.dueFault("law hot 40 by ^599;law", 4);
+        CHECK.dueFault("law hot 40 by 600;^law hot 39", 3);
+        CHECK.dueFault("car c from ^k starts 499", 2);
+        CHECK.dueFault("kitchen k at ^100 hot 60;kitchen k", 4);
+        CHECK.dueFault("kitchen k at 0 hot 60;kitchen ^k at 100", 3);
+        CHECK.dueFault(DAY + ";kitchen x at 0 hot 60;kitchen y at 0 hot 60;^kitchen k", 5);
     }
 }
