@@ -112,6 +112,12 @@ public final class MealBoundariesTest extends DayText {
         CHECK.due(last, "fits the last house's diet", 0, 0, last.fits(5, 0));
         CHECK.due(last, "fits the others' diet", 1, 0, last.fits(4, 0));
         CHECK.due(last, "forAll where only the last house minds", 2, 0, last.forAll());
+        String minds = house('a', 50).replace("eats n", "eats m");
+        NoonMeals first = Check.told(text("diet m bars a", minds, HOUSE, CAR, "dish x of a costs 1"));
+        CHECK.due(first, "forAll where only the first house minds", 0, 0, first.forAll());
+        NoonMeals both = Check.told(text("diet m bars a", minds, minds.replace("house a", "house b"), CAR,
+                "dish x of a costs 1"));
+        CHECK.due(both, "forAll where two houses mind", 0, 0, both.forAll());
         NoonMeals nobody = Check.told(text("diet m bars a", HOUSE, CAR, "dish x of a costs 1"));
         CHECK.due(nobody, "forAll where nobody eats the diet that bars it", 1, 0, nobody.forAll());
     }
@@ -387,6 +393,11 @@ public final class MealBoundariesTest extends DayText {
         dueWeek(told("helper x days 0,1,2,3,4,5,6 most 7", "helper y days 6 most 1"), 7, 0, 0, 0, 0, 0, 0, 1);
         dueWeek(told("helper a days 0 most 7", "helper b days 0,1 most 1", "helper d days 1,2 most 1",
                 "helper e days 2,3 most 1", "helper f days 3,4 most 1"), 5, 0, 1, 2, 3, 4, -2, -2);
+        // Behind a day for nobody all others still count.
+        dueWeek(told("helper x days 1,6 most 1", "helper y days 1 most 1"), 2, -2, 1, -2, -2, -2, -2, 0);
+        // Five helpers wish for two days alone.
+        dueWeek(told("helper a days 0,1 most 7", "helper b days 0,1 most 7", "helper d days 0,1 most 7",
+                "helper e days 0,1 most 7", "helper f days 0,1 most 7"), 2, 0, 1, -2, -2, -2, -2, -2);
     }
 
     /** "then the least days of the busiest". */
@@ -416,6 +427,8 @@ public final class MealBoundariesTest extends DayText {
         }
         Check.tell(x, day("helper x days 0 most 1"));
         CHECK.due("helper(0) of a new day", -1, x.helper(0));
+        Check.tell(x, day("helper x days 6 most 1"));
+        dueWeek(x, 1, -2, -2, -2, -2, -2, -2, 0);
     }
 
     // ---- signs, probes
@@ -545,6 +558,10 @@ public final class MealBoundariesTest extends DayText {
         CHECK.due(x, "faulty(0)", 12, 0, x.faulty(0));
         CHECK.due(x, "faulty(4): above and below", 12, 0, x.faulty(4));
         CHECK.due(x, "faulty(5): off by just so much", 0, 0, x.faulty(5));
+        NoonMeals first = bare();
+        first.probe(0, 600, 59);
+        CHECK.due(first, "faulty(20) of the first", 1, 0, first.faulty(20));
+        CHECK.due(first, "firstCold of the first", 0, 0, first.firstCold());
         NoonMeals cold = Check.told(text(HOUSE, car("c", 500, 1, 50)));
         // At 535 due is 80 - 175 = -95, at 999 far below.
         cold.probe(0, 535, 4);

@@ -310,6 +310,10 @@ public final class RoundBoundariesTest extends DayText {
                 CHECK.due(x, "bestAt of " + count, held ? count - 1 : -1, held ? 0 : 3, x.bestAt(0, houses, count - 1));
             }
         }
+        NoonMeals last = Check.told(text(sixHouses(), CAR, car("d", 700, 1, 0), car("e", 500, 2, 0)));
+        CHECK.due(last, "best of the last car first", 501, 0, last.best(2, 3));
+        CHECK.due(last, "best of the car ahead of it", 700, 0, last.best(1, 1));
+        CHECK.due(last, "best of the first car", 605, 0, last.best(0, 63));
         NoonMeals driven = driven(text(sixHouses(), car("c", 600, 1, 0)), 0);
         CHECK.due(driven, "best of another house than the driven one", 601, 0, driven.best(0, 2));
     }

@@ -18,6 +18,9 @@ public final class TextBoundariesTest {
     private static final String[][] NAMED = {{"kitchen", " at 0 hot 60"}, {"dish", " of a costs 1"},
         {"diet", " bars a"}, {"house", " at 0 eats n doors 0 tea 0 chance 0 need 1"},
         {"car", " from k starts 500 holds 1 cools 0"}, {"call", " takes 1 chance 0"}, {"helper", " days 0 most 1"}};
+    /** A line of each sort, with all that may stand in it. */
+    private static final String[] ALL_LINES = {LAW, KITCHEN, DIET, HOUSE + " dog", CAR + " afraid", "flood 0 adds 1",
+        "dish x of a costs 1", "call x takes 1 chance 0", "helper x days 0, 1 most 1"};
     private static final int[] NO_TOKEN = {0, 9, 10, 13, 31, 33, '-', '.', '/', ':', '@', 'A', 'Z', '`', '{', 127, 128,
         160, 224, 250, 255};
     private static final Check CHECK = new Check("TextBoundariesTest");
@@ -43,6 +46,7 @@ public final class TextBoundariesTest {
         noTokens();
         signsAlone();
         linesAndTheirEnd();
+        wordsOfLines();
         wordsThatAreNoNames();
         wordsThatAreNames();
         namesOfAllSortsToldAgain();
@@ -51,6 +55,7 @@ public final class TextBoundariesTest {
         wholesAtTheirBounds();
         lettersCountOnce();
         perhapsBehindALine();
+        nothingOfAnotherText();
         daysOfAHelper();
         fullRooms();
         oneLineMore();
@@ -265,6 +270,8 @@ public final class TextBoundariesTest {
         CHECK.dueGood(behindDay("diet abcdefgh bars a;diet abcdefgi bars a;diet bbcdefgh bars a"));
         CHECK.dueGood(behindDay("diet a bars a;diet aa bars a;diet aaaaaaaa bars a"));
         CHECK.dueGood(behindDay("diet za bars a;diet az bars a;diet zzzzzzzz bars a"));
+        CHECK.dueGood(behindDay("diet b bars a;diet bb bars a;diet bbbbbbbb bars a"));
+        CHECK.dueGood(behindDay("diet ab bars a;diet bb bars a;diet b bars a"));
         CHECK.dueFault(behindDay("diet abcdefgh bars a;diet ^abcdefgh bars a"), 3);
         CHECK.dueFault(behindDay("diet zzzzzzzz bars a;diet ^zzzzzzzz bars a"), 3);
         CHECK.dueFault(behindDay("diet abcdefgh bars a;house x at 0 eats ^abcdefg"), 2);
@@ -317,12 +324,9 @@ public final class TextBoundariesTest {
     private static void linesAndTheirEnd() {
         CHECK.dueFault(DAY + ";^", 1);
         CHECK.dueFault(DAY + ";   ^", 1);
-        String[] lines = {LAW, KITCHEN, DIET, HOUSE + " dog", CAR + " afraid", "flood 0 adds 1",
-            "dish x of a costs 1", "call x takes 1 chance 0", "helper x days 0, 1 most 1"};
-        for (String line : lines) {
-            String ahead = line.equals(HOUSE + " dog") ? DIET + ";" : line.equals(CAR + " afraid") ? KITCHEN + ";" : "";
+        for (String line : ALL_LINES) {
             String[] tokens = line.replace(",", " ,").split(" ");
-            StringBuilder part = new StringBuilder(ahead);
+            StringBuilder part = new StringBuilder(aheadOf(line));
             for (int i = 0; i < tokens.length; i++) {
                 part.append(tokens[i]);
                 boolean isLine = i == tokens.length - 1 || tokens[i + 1].equals("dog") || tokens[i + 1].equals("afraid");
@@ -332,6 +336,30 @@ public final class TextBoundariesTest {
                 part.append(' ');
             }
         }
+    }
+
+    /** "TOKEN with which no DAY goes on": a line's word with another first or last letter, or one more or less. */
+    private static void wordsOfLines() {
+        for (String line : ALL_LINES) {
+            String[] tokens = line.split(" ");
+            String before = aheadOf(line);
+            for (int i = 0; i < tokens.length; i++) {
+                String word = tokens[i];
+                if (word.length() > 1 && Character.isLetter(word.charAt(0))) {
+                    CHECK.dueFault(before + "^" + "q" + word.substring(1), 1);
+                    CHECK.dueFault(before + "^" + word.substring(0, word.length() - 1) + "q", 1);
+                    CHECK.dueFault(before + "^" + word.substring(0, word.length() - 1), 1);
+                    CHECK.dueFault(before + "^" + word.substring(1), 1);
+                    CHECK.dueFault(before + "^" + word + "q", 1);
+                }
+                before += word + " ";
+            }
+        }
+    }
+
+    /** The names that a line needs, told. */
+    private static String aheadOf(String line) {
+        return line.startsWith("house") ? DIET + ";" : line.startsWith("car") ? KITCHEN + ";" : "";
     }
 
     /** "NAMES are WORDS but law, kitchen, .." */
@@ -465,6 +493,24 @@ public final class TextBoundariesTest {
         CHECK.dueFault(behindDay(car + " afraid ^afraid"), 1);
         CHECK.dueFault(behindDay("kitchen x at 0 hot 60 ^dog"), 1);
         CHECK.dueFault(behindDay("call x takes 1 chance 0 ^afraid"), 1);
+    }
+
+    /** A text tells all of its day: names, dogs, fears and rows of texts ahead of it are gone. */
+    private static void nothingOfAnotherText() {
+        String calm = DAY + ";" + HOUSE.replace("house h", "house i");
+        String wild = calm.replace("need 1", "need 1 dog").replace("cools 0", "cools 0 afraid") + ";flood 0 adds 1";
+        NoonMeals x = new NoonMeals();
+        for (String text : new String[] {wild, wild, calm, calm, wild + ";", calm, wild, calm}) {
+            if (Check.tell(x, text) == 2) {
+                x.drive(0, 0);
+                x.drive(0, 1);
+                CHECK.due("comes behind a dog, or none", text.equals(wild) ? 505 : 500, x.comes(1));
+                CHECK.due("floods", text.equals(wild) ? 1 : 0, x.size(5));
+            }
+        }
+        CHECK.due(x, "a name of the text ahead", -1, 4, Check.tell(x, LAW + ";car c from k starts 500 holds 1 cools 0"));
+        CHECK.due("isn't told", 2, x.fault());
+        CHECK.due(x, "the same names again", 1, 0, Check.tell(x, DAY));
     }
 
     /** "WHOLE {, WHOLE} .. (0 .. 6, unlike ones)"; "a day of a helper told again; at it". */
