@@ -375,6 +375,8 @@ public final class RoundBoundariesTest extends DayText {
         NoonMeals less = Check.told(text(sixHouses(), car("c", 600, 1, 0), car("d", 600, 2, 0), car("e", 600, 2, 0)));
         CHECK.due(less, "share to cars that hold all but one", -1, 6, less.share());
         CHECK.due("shared behind it", -1, less.shared(0));
+        NoonMeals least = Check.told(text(sixHouses(), car("c", 600, 1, 0), car("d", 600, 1, 0), car("e", 600, 1, 0)));
+        CHECK.due(least, "share of six to cars that hold three", -1, 6, least.share());
         NoonMeals one = Check.told(text(sixHouses(), car("c", 800, 6, 0)));
         CHECK.due(one, "share of six bad ones to one car", 6, 0, one.share());
         CHECK.due("shared(5) to one car", 0, one.shared(5));
@@ -396,6 +398,30 @@ public final class RoundBoundariesTest extends DayText {
         CHECK.due(late, "share to two cars", 0, 0, late.share());
         CHECK.due("shared(0) to two cars", 0, late.shared(0));
         CHECK.due("shared(1) to two cars", 1, late.shared(1));
+        // No plate is hot enough. The first car comes last at 800 + 50 + 120 + 30, the others together at 500 + 500:
+        // alike, though more cars are empty; a minute more at the flood, and it is the others' turn.
+        dueShares(60, 0, 0);
+        dueShares(59, 0, 0);
+        NoonMeals more = farCarOrTwo(60, "flood 1 adds 1");
+        CHECK.due(more, "share of a sum one greater", 2, 0, more.share());
+        CHECK.due("shared(0) to the near cars", 1, more.shared(0));
+        CHECK.due("shared(1) to the near cars", 2, more.shared(1));
+    }
+
+    private static void dueShares(int adds, int... cars) {
+        NoonMeals x = farCarOrTwo(adds, "flood 60 adds 1");
+        CHECK.due(x, "share by a flood of " + adds, cars.length, 0, x.share());
+        for (int house = 0; house < cars.length; house++) {
+            CHECK.due("shared(" + house + ") by a flood of " + adds, cars[house], x.shared(house));
+        }
+    }
+
+    /** Two houses where two cars of one plate each stand, and a car for both that comes over floods. */
+    private static NoonMeals farCarOrTwo(int adds, String flood) {
+        String far = car("f", 800, 2, 0).replace("from k", "from m");
+        return Check.told(text("kitchen m at 0 hot 80", "flood 0 adds 60", "flood 0 adds " + adds, flood,
+                house('a', 50, "30 0 0 1"), house('b', 50, "30 0 0 1"), far, car("c", 500, 1, 0),
+                car("d", 500, 1, 0)).replace("hot 60", "hot 90"));
     }
 
     /** "then the first by the cars' numbers of house 0, 1, .." */
