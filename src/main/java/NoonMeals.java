@@ -1095,22 +1095,24 @@ public final class NoonMeals {
             knownCars |= 1 << car;
             Arrays.fill(worths[car], WORST);
             worths[car][0] = starts;
-            extend(day, car, 0, 0, starts, 0);
+            extend(this, day, car, 0, 0, starts, 0);
         }
 
-        private void extend(Day day, int car, int depth, int done, int leaves, int bad) {
+        /** Drives on from a round of so many houses to each house that is left. */
+        private static void extend(Orders orders, Day day, int car, int depth, int done, int leaves, int bad) {
             if (depth >= Math.min(MOST_HOUSES, day.get(CARS, car, CAR_HOLDS))) {
                 return;
             }
-            int place = depth == 0 ? day.startPlace(car) : day.get(HOUSES, order[depth - 1], HOUSE_AT);
+            int place = depth < 1 ? day.startPlace(car) : day.get(HOUSES, orders.order[depth - 1], HOUSE_AT);
             for (int house = 0; house < Math.min(MOST_HOUSES, day.rows(HOUSES)); house++) {
                 int now = done | 1 << house;
                 if (now != done) {
                     int minute = leaves + day.wayBetween(place, day.get(HOUSES, house, HOUSE_AT));
                     int badNow = bad + (day.isBadAt(car, minute) ? 1 : 0);
-                    order[depth] = house;
-                    note(car, now, badNow * BAD_WEIGHT + minute);
-                    extend(day, car, depth + 1, now, minute + day.stayWithoutTea(car, house), badNow);
+                    int leavesNow = minute + day.stayWithoutTea(car, house);
+                    orders.order[depth] = house;
+                    orders.note(car, now, badNow * BAD_WEIGHT + minute);
+                    extend(orders, day, car, depth + 1, now, leavesNow, badNow);
                 }
             }
         }
@@ -1149,24 +1151,25 @@ public final class NoonMeals {
         int search(Day day, Orders orders) {
             least = WORST;
             Arrays.fill(held, 0);
-            give(day, orders, 0);
+            give(this, day, orders, 0);
             if (least != WORST) {
                 toldHouses = Math.min(MOST_HOUSES, day.rows(HOUSES));
             }
             return least;
         }
 
-        private void give(Day day, Orders orders, int house) {
+        /** Gives a house, and behind it those of higher numbers, to each car that has room for it. */
+        private static void give(Shares shares, Day day, Orders orders, int house) {
             if (house >= Math.min(MOST_HOUSES, day.rows(HOUSES))) {
-                note(orders);
+                shares.note(orders);
                 return;
             }
             for (int car = 0; car < Math.min(MOST_CARS, day.rows(CARS)); car++) {
-                if (Integer.bitCount(held[car]) < day.get(CARS, car, CAR_HOLDS)) {
-                    held[car] |= 1 << house;
-                    cars[house] = car;
-                    give(day, orders, house + 1);
-                    held[car] &= ~(1 << house);
+                if (Integer.bitCount(shares.held[car]) < day.get(CARS, car, CAR_HOLDS)) {
+                    shares.held[car] |= 1 << house;
+                    shares.cars[house] = car;
+                    give(shares, day, orders, house + 1);
+                    shares.held[car] &= ~(1 << house);
                 }
             }
         }
@@ -1307,7 +1310,7 @@ public final class NoonMeals {
 
         long search(Day day) {
             least = ENDLESS;
-            extend(day, 0, 0);
+            extend(this, day, 0, 0);
             toldCalls = callCount(day);
             return least;
         }
@@ -1319,15 +1322,15 @@ public final class NoonMeals {
             return expected(day);
         }
 
-        private void extend(Day day, int depth, int done) {
+        private static void extend(Knocks knocks, Day day, int depth, int done) {
             if (depth >= callCount(day)) {
-                note(day);
+                knocks.note(day);
                 return;
             }
             for (int call = 0; call < callCount(day); call++) {
                 if ((done & 1 << call) == 0) {
-                    order[depth] = call;
-                    extend(day, depth + 1, done | 1 << call);
+                    knocks.order[depth] = call;
+                    extend(knocks, day, depth + 1, done | 1 << call);
                 }
             }
         }

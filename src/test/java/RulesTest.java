@@ -111,6 +111,7 @@ public final class RulesTest {
             boolean listed = List.of("java.util.Arrays", "java.util.NoSuchElementException").contains(imports.group(1));
             CHECK.due("import of " + imports.group(1) + " is listed", true, listed);
         }
+        recursion(code);
         int opened = -1;
         String[] lines = code.split("\n");
         for (int i = 0; i < lines.length; i++) {
@@ -126,5 +127,23 @@ public final class RulesTest {
                 opened = -1;
             }
         }
+    }
+
+    /** A method that calls itself is private and static. */
+    private static void recursion(String code) {
+        Matcher methods = Pattern.compile("(?ms)^( +)([\\w\\[\\] ]+) (\\w+)\\([^)]*\\) (throws \\w+ )?\\{\n(.*?)^\\1\\}$")
+                .matcher(code);
+        int read = 0;
+        while (methods.find()) {
+            Matcher ownCall = Pattern.compile("(?<![.\\w])" + methods.group(3) + "\\(").matcher(methods.group(5));
+            boolean isOpenToIt = methods.group(2).startsWith("private static ");
+            CHECK.due(methods.group(3) + " calls itself", false, ownCall.find() && !isOpenToIt);
+            read++;
+        }
+        int methodsThere = NoonMeals.class.getDeclaredMethods().length + 1;
+        for (Class<?> inside : NoonMeals.class.getDeclaredClasses()) {
+            methodsThere += inside.getDeclaredMethods().length;
+        }
+        CHECK.due("methods that were read, with the constructor", methodsThere, read);
     }
 }
